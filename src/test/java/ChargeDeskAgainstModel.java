@@ -9,7 +9,8 @@ import java.util.Random;
  */
 public final class ChargeDeskAgainstModel {
     private static final int RUNS = 20000;
-    private static final int CALLS = 512;
+    /** With failed() and told(1) behind each ask, no run goes beyond the 512 calls that the document promises. */
+    private static final int CALLS = 510;
     private static final int[] EDGES = {
         Integer.MIN_VALUE, Integer.MIN_VALUE + 1, -2, -1, 0, 1, 2, 3, 7, 8, 16, 65536, Integer.MAX_VALUE - 1, Integer.MAX_VALUE,
     };
@@ -332,16 +333,19 @@ public final class ChargeDeskAgainstModel {
             int s = number(random, span, wild);
             long got = call(desk, call, p, q, r, s);
             long want = model.call(call, p, q, r, s);
-            long gotWhy = desk.failed();
-            long gotSteps = desk.told(1);
+            if (got != want) {
+                System.out.println("seed " + seed + ", call " + i + ": call " + call + " (" + p + ", " + q + ", " + r + ", " + s
+                    + ") answered " + got + ", due is " + want);
+                return false;
+            }
             if (call == 18) {
                 seen[-model.failed]++;
-            }
-            if (got != want || gotWhy != model.failed || gotSteps != model.steps) {
-                System.out.println("seed " + seed + ", call " + i + ": call " + call + " (" + p + ", " + q + ", " + r + ", " + s
-                    + ") answered " + got + ", failed() " + gotWhy + ", told(1) " + gotSteps
-                    + "; due is " + want + ", " + model.failed + ", " + model.steps);
-                return false;
+                i += 2;
+                if (desk.failed() != model.failed || desk.told(1) != model.steps) {
+                    System.out.println("seed " + seed + ", call " + i + ": behind ask(" + p + ", " + q + ", " + r + ") failed() is "
+                        + desk.failed() + ", told(1) " + desk.told(1) + "; due is " + model.failed + ", " + model.steps);
+                    return false;
+                }
             }
         }
         return true;

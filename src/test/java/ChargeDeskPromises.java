@@ -333,6 +333,8 @@ public final class ChargeDeskPromises {
         x.booked(11, 1);
         x.joined(12, 0, 10, 11);
         gives("9: both for w and d", x, 12, 7, 3, 1007);
+        x.joined(12, 1, 11, 10);
+        gives("9: both for w and d", x, 12, 7, 3, 993);
     }
 
     private static void promise10When() {
@@ -362,6 +364,9 @@ public final class ChargeDeskPromises {
         x.booked(6, 0);
         x.when(7, 1, 6, 2);
         gives("10: b for d", x, 7, 1, 2, 50);
+        x.when(7, 6, 1, 2);
+        gives("10: a for d", x, 7, 1, 2, 11);
+        gives("10: a for d", x, 7, 2, 1, 22);
         x.when(7, 0, 2, 0);
         gives("10: c for w", x, 7, -5, 2, -5);
         due("10: a", x.when(3, 9, 1, 1), NONE);
@@ -461,6 +466,8 @@ public final class ChargeDeskPromises {
         x.booked(9, 0);
         x.guarded(10, 2, 9);
         gives("13: b's for d", x, 10, 8, 2, 5);
+        x.guarded(10, 9, 1);
+        gives("13: a's for d", x, 10, 8, 2, 5);
         x.called(11, 11);
         x.guarded(12, 11, 1);
         fails("13: not by DEEP", x, 12, 1, 1, DEEP);
