@@ -286,6 +286,16 @@ public final class ChargeDesk {
         return isBelow(place, PLACE_LIMIT);
     }
 
+    // A rule brings the number that it was made with: it is looked at again where it is used.
+
+    private int rateNow(int k) {
+        return isBelow(k, RATE_LIMIT) ? rates[k] : 0;
+    }
+
+    private Rule ruleNow(int place) {
+        return isPlace(place) ? places[place] : null;
+    }
+
     private int takenPlaces() {
         int taken = 0;
         for (int place = 0; place < PLACE_LIMIT; place++) {
@@ -342,7 +352,7 @@ public final class ChargeDesk {
             case RATED:
                 return (long) load * rule.number;
             case LIVE:
-                return (long) load * rates[rule.number];
+                return (long) load * rateNow(rule.number);
             case BOOKED:
                 return answerBooked(rule, way);
             case JOINED:
@@ -356,7 +366,7 @@ public final class ChargeDesk {
             case GUARDED:
                 return answerGuarded(rule, load, way, open);
             case CALLED:
-                return answer(places[rule.number], load, way, open);
+                return answer(ruleNow(rule.number), load, way, open);
             case BARRED:
                 return load > rule.number ? fail(BAR) : answer(rule.first, load, way, open);
             case COUNTED:
